@@ -574,13 +574,12 @@ public final class LoudHouse {
         }
 
         int storeyOf(int loudness) {
-            int found = 0;
             for (int storey = 1; storey < storeys && storey < begins.length; storey++) {
-                if (loudness >= begins[storey]) {
-                    found = storey;
+                if (loudness < begins[storey]) {
+                    return storey - 1;
                 }
             }
-            return found;
+            return Math.max(0, storeys - 1);
         }
 
         boolean isAt(int one, int room, int storey) {
@@ -605,27 +604,29 @@ public final class LoudHouse {
             }
         }
 
-        /** What a person hears of one who sings so loud, be it themselves. */
-        int share(int person, int singer, int where, int rooming, int loud) {
-            if (person == singer) {
-                return loud;
-            }
-            if (has(deaf, person) || storeyIn(where, person) != storeyIn(where, singer)) {
-                return 0;
-            }
-            int apart = Math.abs(roomIn(rooming, person) - roomIn(rooming, singer));
-            if (apart == 0) {
-                return loud / 2;
-            }
-            return apart == 1 ? loud / 4 : 0;
-        }
-
+        /** What a person hears, who is where they are told to be, in rooms that are told, too. */
         int heardBy(int person, int where, int rooming, int[] sung) {
+            if (has(deaf, person)) {
+                return cell(sung, person);
+            }
+            int storey = storeyIn(where, person);
+            int room = roomIn(rooming, person);
             int heard = 0;
             for (int singer = 0; singer < people && singer < sung.length; singer++) {
-                heard += share(person, singer, where, rooming, sung[singer]);
+                if (singer == person) {
+                    heard += sung[singer];
+                } else if (storeyIn(where, singer) == storey) {
+                    heard += faded(sung[singer], room - roomIn(rooming, singer));
+                }
             }
             return heard;
+        }
+
+        private static int faded(int loud, int roomsApart) {
+            if (roomsApart == 0) {
+                return loud / 2;
+            }
+            return roomsApart == 1 || roomsApart == -1 ? loud / 4 : 0;
         }
 
         boolean isWith(int thing, int person, int where) {
@@ -1122,9 +1123,8 @@ public final class LoudHouse {
             return Rule.EQUAL;
         }
 
-        /** Behind a fact: it is whole, and so are those whose brackets close here. */
+        /** Behind a fact: what waits since the brackets opened that close here is whole. */
         private void closeFacts(Rule rule) {
-            settle(rule, level(Rule.NOT));
             for (int i = 0; i < MOST_BYTES && open > 0 && !tape.failed(); i++) {
                 if (tape.peek() != ']') {
                     break;
@@ -1134,7 +1134,6 @@ public final class LoudHouse {
                 waits--;
                 open--;
                 deep--;
-                settle(rule, level(Rule.NOT));
             }
         }
 
@@ -1510,6 +1509,9 @@ public final class LoudHouse {
         /** Of each slot the situation that hashed to it, by its number and 1. */
         private final int[] slots = new int[SLOTS];
         private int found;
+        private final int[] sung = new int[MOST_PEOPLE];
+        /** What one hears of each who sings, and of all of these together. */
+        private final int[] shares = new int[MOST_PEOPLE];
         private final int[] heard = new int[1 << MOST_PEOPLE];
         private final int[] then = new int[1 << MOST_PEOPLE];
         int whoSingsFirst;
@@ -1571,27 +1573,32 @@ public final class LoudHouse {
         private void lookOn(int where) {
             Arrays.fill(then, 0);
             for (int person = 0; person < home.people; person++) {
-                for (int who = 1; who < 1 << home.people && who < heard.length; who++) {
-                    int singer = Integer.numberOfTrailingZeros(who);
-                    int more = home.share(person, singer, where, home.places, LOUDEST);
-                    heard[who] = cell(heard, who & who - 1) + more;
+                for (int singer = 0; singer < home.people; singer++) {
+                    singAlone(singer);
+                    put(shares, singer, home.heardBy(person, where, home.places, sung));
                 }
                 lift(person, 0);
             }
             for (int thing = 0; thing < home.things; thing++) {
-                for (int who = 1; who < 1 << home.people && who < heard.length; who++) {
-                    int singer = Integer.numberOfTrailingZeros(who);
-                    int more = home.isWith(thing, singer, where) ? LOUDEST : 0;
-                    heard[who] = cell(heard, who & who - 1) + more;
+                for (int singer = 0; singer < home.people; singer++) {
+                    put(shares, singer, home.isWith(thing, singer, where) ? LOUDEST : 0);
                 }
                 lift(MOST_PEOPLE + thing, cell(home.weights, thing));
             }
         }
 
+        private void singAlone(int singer) {
+            Arrays.fill(sung, 0);
+            put(sung, singer, LOUDEST);
+        }
+
+        /** Of one, by who sings: where they come to, by their shares of each and less a weight. */
         private void lift(int one, int weight) {
-            for (int who = 0; who < 1 << home.people && who < heard.length; who++) {
-                int storey = home.storeyOf(Math.max(0, heard[who] - weight));
-                put(then, who, withStorey(cell(then, who), one, storey));
+            int ways = 1 << home.people;
+            for (int who = 0; who < ways && who < heard.length && who < then.length; who++) {
+                int others = who & who - 1;
+                heard[who] = who == 0 ? 0 : cell(heard, others) + cell(shares, Integer.numberOfTrailingZeros(who));
+                then[who] = withStorey(then[who], one, home.storeyOf(Math.max(0, heard[who] - weight)));
             }
         }
     }

@@ -209,6 +209,7 @@ public final class PromiseTest {
         badHouse("^House 1 1", 0);
         badHouse("^houses 1 1", 0);
         badHouse(" ^hous 1 1", 0);
+        badHouse("^housez 1 1", 0);
         badHouse("house^", 0);
         badHouse("house 1^", 0);
         badHouse("house 1  ^", 0);
@@ -291,6 +292,7 @@ public final class PromiseTest {
         badRule("^", 0);
         badRule("^song 1", 0);
         badRule("^singing 1", 0);
+        badRule("^singz 1", 0);
         badRule("^if 1=1", 0);
         badRule("sing^", 0);
         badRule("sing ^;walk 1", 0);
@@ -490,7 +492,8 @@ public final class PromiseTest {
         }
         due("nothing happened", x.count(6), 1);
         due("acts", x.count(8), 1);
-        goTo(x, 9999);
+        goTo(x, 9998);
+        due("at beat 9998", x.sing(0, 30), 2);
         due("at beat 9999", x.sing(0, 0), -1);
         due("no house", new LoudHouse().sing(0, 0), -1);
         close("sing");
@@ -809,6 +812,8 @@ public final class PromiseTest {
         // 3 hears what it sings, 4 / 4, 12 / 2 and 2 / 4.
         met(x, 8, 2, new int[] {8, 2, 8, -1, -1});
         met(home("house 1 1;span 40;person 0 5"), 1, 1, no);
+        met(home("house 1 1;span 30;person 0 5"), 1, 1, new int[] {30, 1, 30, -1, -1});
+        met(home("house 1 1;span 30;span 30;person 0 5;person 0 5;person 0 5"), 7, 2, new int[] {90, 2, 30, 30, 30});
         int[][] wrong = {{0, -1, 0}, {16, -1, 0}, {-1, -1, 0}, {15, -1, 0}, {1, 3, 0}, {1, -2, 0}, {1, 0, 5}, {1, 0, -1},
             {FAR, 0, 0}, {LOW, 0, 0}, {1, FAR, 0}};
         for (int[] w : wrong) {
@@ -850,6 +855,11 @@ public final class PromiseTest {
             + "person 1 1;person 2 1;person 2 1;person 2 1;thing 3 0;thing 2 0");
         carried(z, 0, 1, -4, -4);
         carried(z, 1, 3, 1, 16);
+        // These come to 600 situations in all, and to 601, all without the thing's being anywhere else.
+        carried(home("house 4 1;span 22;span 7;person 2 1;person 0 1;person 1 1;person 2 1;person 0 1;person 2 1;person 1 1;"
+            + "thing 3 0"), 0, 1, -3, -3);
+        carried(home("house 4 1;span 37;span 7;span 30;span 31;span 37;person 1 1;person 1 1;person 0 1;person 2 1;"
+            + "person 0 1;person 1 1;person 1 1;thing 3 0"), 0, 1, -4, -4);
         due("no house", new LoudHouse().carry(0, 0, 0), -1);
         close("carry");
     }
