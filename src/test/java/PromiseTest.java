@@ -6,6 +6,8 @@ public final class PromiseTest {
     /** The house that most promises are tried in: storeys from 0, 5 and 15 on. */
     private static final String HOME = "house 3 2;span 5;span 10;person 0 4 6;person 0 8 1;person 1 20 20;deaf 1;"
         + "thing 0 6;thing 2 0;asks 0 3;asks 1 7;asks 0 5";
+    /** Behind a beat, people are on storey 1, and each thing on the storey of its number. */
+    private static final String LIFTED_THINGS = "house 2 1;span 5;span 10;person 0 9;person 0 9;thing 0 60;thing 0 10;thing 0 0";
     private static final int FAR = Integer.MAX_VALUE;
     private static final int LOW = Integer.MIN_VALUE;
 
@@ -398,6 +400,11 @@ public final class PromiseTest {
         LoudHouse y = home("house 2 1;person 0 7;person 0 9;person 1 30;deaf 0;thing 0 5;thing 0 60");
         due("heard of 0", y.thing(0, 3), 11);
         due("heard of 1", y.thing(1, 3), 0);
+        LoudHouse z = home(LIFTED_THINGS);
+        z.beat();
+        for (int t = 0; t < 3; t++) {
+            due("the storey of " + t, z.thing(t, 1), t);
+        }
         close("thing");
     }
 
@@ -558,6 +565,12 @@ public final class PromiseTest {
         y.beat();
         due("above it", y.push(0, 1), -1);
         due("its room", y.thing(0, 0), 0);
+        LoudHouse z = home(LIFTED_THINGS);
+        z.beat();
+        due("below them", z.push(0, 1), -1);
+        due("with them", z.push(1, 1), 1);
+        due("above them", z.push(2, 1), -1);
+        due("rooms", z.thing(0, 0) * 100 + z.thing(1, 0) * 10 + z.thing(2, 0), 10);
         due("no house", new LoudHouse().push(0, 1), -1);
         close("push");
     }
@@ -1072,6 +1085,12 @@ public final class PromiseTest {
         due("rent(3)", x.rent(3), -1);
         due("rent(-1)", x.rent(-1), -1);
         due("rent(most)", x.rent(FAR), -1);
+        LoudHouse y = home(LIFTED_THINGS);
+        due("things by themselves", y.rent(0), 15);
+        y.beat();
+        due("thing 0", y.rent(0), 5);
+        due("two people, thing 1", y.rent(1), 15);
+        due("thing 2", y.rent(2), 5);
         due("no house", new LoudHouse().rent(0), -1);
         close("rent");
     }
