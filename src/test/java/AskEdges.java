@@ -384,7 +384,7 @@ final class AskEdges {
             carries(t.home(deaf + ";thing 0 0;thing 1 0"), 1, 1, -3, -3));
         t.edge("Promise 20", "-4: UNKNOWN", "more than 576, by another thing", () ->
             carries(t.home(deaf + ";thing 0 0;thing 0 30;thing 1 0"), 2, 1, -4, -4));
-        t.edge("Terms", "600 at most", "it is there before there are too many", () ->
+        t.edge("Terms", "600 at most, without the one in which it is there", "it is there before there are too many", () ->
             carries(t.home(deaf + ";thing 0 0;thing 0 30;thing 1 0"), 1, 1, 1, 3));
         t.edge("Terms", "else it is UNKNOWN.", "601 in all, in none of which it is there", () ->
             carries(t.home("house 4 1;span 10;span 19;person 1 1;person 0 1;person 1 1;person 3 1;person 2 1;person 0 1;person 2 1;"
@@ -938,6 +938,14 @@ final class AskEdges {
             draws(x, 1, 4, 1, 0);
             draws(x, 1, 5, 2, 1);
         });
+        t.edge("Terms", "a DRAW is x / 65536.", "0 by 12345, the first x; 9 by 589825 and by 655359; 10 by 655360", () -> {
+            // Of seven lots, six people and nobody.
+            t.due("0", sneezer(0), 0);
+            t.due("589825", sneezer(before(589825)), 9 % 7);
+            t.due("655359", sneezer(before(655359)), 9 % 7);
+            t.due("655360", sneezer(before(655360)), 10 % 7);
+            t.due("2147483647, 32767", sneezer(before(2147483647)), 32767 % 7);
+        });
         t.edge("Terms", "in each a DRAW mod PEOPLE and 1 more", "of seven, eight", () -> {
             // 0, 4 and 4 sneeze: 0 lifts all; then 4 lifts them again.
             LoudHouse x = t.home("house 1 1;span 10" + ";person 0 0".repeat(7));
@@ -994,6 +1002,32 @@ final class AskEdges {
             draws(x, 1, 4, 1, 0);
             draws(x, 1, 5, 2, 1);
         });
+    }
+
+    /** The x whose next one is this: what multiplies is odd, so it has an inverse of 2147483648's rests. */
+    private static int before(int x) {
+        long inverse = 1;
+        for (int k = 0; k < 31; k++) {
+            inverse = inverse * (2 - 1103515245L * inverse);
+        }
+        return (int) ((x - 12345L) * inverse & 2147483647L);
+    }
+
+    /** Which of six people sneezes first from an x on; 6 is nobody. */
+    private int sneezer(int x) {
+        for (int one = 0; one < 6; one++) {
+            // All are lifted by their own voice, but for one, who is lifted by a sneeze alone.
+            StringBuilder house = new StringBuilder("house 1 1;span 30");
+            for (int p = 0; p < 6; p++) {
+                house.append(";person 0 ").append(p == one ? 0 : 30);
+            }
+            LoudHouse y = t.home(house + ";deaf 0;deaf 1;deaf 2;deaf 3;deaf 4;deaf 5");
+            y.seed(x);
+            if (y.drawn(1, 1, 0) == 6) {
+                return one;
+            }
+        }
+        return 6;
     }
 
     private void drawnWithout() {
