@@ -1,7 +1,7 @@
 /** Long runs of calls, each answered by LoudHouse and by PlainHouse, which must agree. */
 public final class CompareTest {
     private static final int RUNS = 250;
-    private static final int CALLS = 480;
+    private static final int CALLS = 440;
 
     private final Texts made;
     private final LoudHouse x = new LoudHouse();
