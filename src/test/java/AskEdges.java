@@ -187,9 +187,23 @@ final class AskEdges {
         + "person 2 19 18 5 15 10;person 1 29 24 11 21 25;person 1 0 20 30 25 19;person 1 18 7 0 6 16;person 1 12 28 22 23 0;"
         + "person 1 6 1 16 29 7;deaf 2;deaf 3;deaf 4;deaf 5;deaf 6;thing 1 3;thing 1 2;thing 1 1";
 
+    /** The first one's days told twice as one of 6 hours, and changed till a thing takes long to come to its round. */
+    private static final String NEARER = "house 4 6;span 5;span 4;span 5;span 4;span 2;span 1;span 5;person 0 14 13 17 14 12 16;"
+        + "person 0 20 12 7 20 12 8;person 1 0 12 30 3 11 29;person 1 17 26 17 16 26 13;person 1 21 16 10 21 17 17;"
+        + "person 1 30 25 24 26 9 30;person 1 26 9 29 30 25 25;deaf 2;deaf 3;deaf 4;deaf 5;deaf 6;thing 1 3;thing 1 1;thing 1 2";
+
     private void longLoops() {
         t.edge("Terms", "(2000 BEATS at most: else it is UNKNOWN.)", "1 and 1980 beats: 3 hours, 11 days, 60 days", () ->
             loops(t.home(NEARLY), 1, 1980, 7));
+        t.edge("Terms", "(2000 BEATS at most: else it is UNKNOWN.)", "19 and 1980 beats: 1999 in all", () -> {
+            LoudHouse x = t.home(NEARER);
+            t.goTo(x, 8);
+            loops(x, 0, 1980, 7);
+            x.sing(4, 4);
+            loops(x, 19, 1980, 7);
+            x.beat();
+            loops(x, 18, 1980, 7);
+        });
         t.edge("Terms", "(2000 BEATS at most: else it is UNKNOWN.)", "420 beats, as the third thing of the next is left out", () ->
             loops(t.home(BEYOND.replace(";thing 1 1", "")), 2, 420, 7));
         t.edge("Promise 18", "-3: UNKNOWN", "2100 beats: 5 hours, 7 days, 60 days", () -> {
